@@ -258,6 +258,7 @@ public final class KeptLeaves {
         if (what < 0 || what > 1) {
             return BAD;
         }
+        sets.fillRooms(live.leaves);
         sets.foresee(live, live.row, live.askings);
         return what == 0 ? sets.least : sets.kept;
     }
@@ -273,6 +274,7 @@ public final class KeptLeaves {
         if (what < 0 || what > 1) {
             return BAD;
         }
+        sets.fillRooms(live.leaves);
         int set = sets.bestWithout(live, 0);
         return what == 0 ? live.leaves.heldOf(set) : set;
     }
@@ -281,6 +283,7 @@ public final class KeptLeaves {
         if (!isLeaf(leaf)) {
             return BAD;
         }
+        sets.fillRooms(live.leaves);
         int with = live.leaves.heldOf(sets.bestWithout(live, 0));
         return with - live.leaves.heldOf(sets.bestWithout(live, 1 << leaf));
     }
@@ -300,6 +303,7 @@ public final class KeptLeaves {
         if (number < 1) {
             return NONE;
         }
+        sets.fillRooms(live.leaves);
         int rows = n == 1 ? number : number * number;
         int greatest = 0;
         int where = NONE;
@@ -1024,14 +1028,14 @@ public final class KeptLeaves {
         }
     }
 
-    /** Answers that look at all sets of leaves. */
+    /** Answers that look at all sets of leaves; each needs the rooms to be filled for these leaves first. */
     private static final class Sets {
         final int[] rooms = new int[MOST_SETS];
         final int[] missed = new int[MOST_SETS];
         int least;
         int kept;
 
-        private void fillRooms(Leaves leaves) {
+        void fillRooms(Leaves leaves) {
             rooms[0] = 0;
             for (int leaf = 0; leaf < leaves.number; leaf++) {
                 int bit = 1 << leaf;
@@ -1042,7 +1046,6 @@ public final class KeptLeaves {
         }
 
         int bestWithout(World world, int without) {
-            fillRooms(world.leaves);
             int best = 0;
             int most = 0;
             for (int set = 1; set < 1 << world.leaves.number; set++) {
@@ -1064,7 +1067,6 @@ public final class KeptLeaves {
             if (n < 1 || n > row.length) {
                 return;
             }
-            fillRooms(world.leaves);
             int many = 1 << world.leaves.number;
             for (int set = 0; set < many; set++) {
                 missed[set] = 0;
@@ -1086,10 +1088,8 @@ public final class KeptLeaves {
                 }
             }
             for (int bit = 1; bit < many; bit *= 2) {
-                for (int set = bit; set < many; set++) {
-                    if ((set & bit) != 0 && missed[set - bit] < missed[set]) {
-                        missed[set] = missed[set - bit];
-                    }
+                for (int set = bit; set < many; set = set + 1 | bit) {
+                    missed[set] = Math.min(missed[set], missed[set - bit]);
                 }
             }
         }
@@ -1097,8 +1097,10 @@ public final class KeptLeaves {
         /* Upwards: what is read at set | bit must not be written yet. */
         private void missBefore(Leaves leaves, int leaf, int many) {
             int bit = 1 << leaf;
+            int chain = leaves.chain[leaf];
+            int miss = leaves.miss[leaf];
             for (int set = 0; set < many; set++) {
-                missed[set] = missed[set | bit] + (leaves.isRead(set, leaf) ? 0 : leaves.miss[leaf]);
+                missed[set] = missed[set | bit] + ((set & chain) == chain ? 0 : miss);
             }
         }
 

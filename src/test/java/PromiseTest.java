@@ -328,7 +328,8 @@ public final class PromiseTest {
         due.is("8 no draw", x.count(13), 1);
         x.seed(99);
         x.leaf(1, 5, 5, NONE);
-        due.is("8 deal", x.deal(5), 5);
+        due.is("8 deal", x.deal(1), 1);
+        due.is("8 deal", x.deal(4), 4);
         due.is("8 deal", x.deal(8), 2);
         int[] z = {99};
         for (int i = 1; i < 8; i++) {
@@ -410,12 +411,16 @@ public final class PromiseTest {
         due.is("12 LAST stays", x.told(1, 7), 4);
         due.is("12 LAST", x.told(0, 7), 5);
         due.is("12 TURN", x.count(7), 5);
+        x.space(0);
+        x.space(3);
+        due.is("12 as large as SPACE", x.want(0), 0);
+        due.is("12 as large as SPACE", x.want(0), 1);
         x.space(2);
         due.is("12 above SPACE", x.want(0), 0);
         due.is("12 stays out", x.count(1), 0);
-        due.is("12 LAST stays", x.told(0, 7), 5);
-        due.is("12 TIMES", x.told(0, 8), 3);
-        due.is("12 COST", x.count(8), 140);
+        due.is("12 LAST stays", x.told(0, 7), 7);
+        due.is("12 TIMES", x.told(0, 8), 5);
+        due.is("12 COST", x.count(8), 170);
     }
 
     /** A vault that is full with 0, 1, 2, in that order; 1 was asked for most, 0 last. */
@@ -712,6 +717,10 @@ public final class PromiseTest {
         due.is("24 the least as bits", x.best(1), 0);
         x.set(1, 2, 1);
         due.is("24 the least as bits", x.best(1), 2);
+        x.set(0, 2, 1);
+        x.space(5);
+        due.is("24 just fits", x.best(0), 50);
+        due.is("24 just fits", x.best(1), 1);
         x.space(3);
         due.is("24 none fits", x.best(0), 0);
         due.is("24 the vault doesn't matter", x.count(1), 0);
@@ -783,6 +792,17 @@ public final class PromiseTest {
         due.is("27 how much", x.gap(2, 0), 20);
         due.is("27 the row", x.gap(2, 1), 2);
         due.is("27 nothing changes", x.count(7), 3);
+        KeptLeaves y = withPlain(3, 3, 3, 3, 9);
+        for (int i = 0; i < 4; i++) {
+            y.set(i, 1, 10 + i);
+            y.want(i);
+        }
+        // 4 throws 0, 1 and 2: 12 is lost by the dearest of them.
+        due.is("27 how much", y.gap(2, 0), 12);
+        due.is("27 the row", y.gap(2, 1), 42);
+        y.rule(4);
+        Due.text(y, "throw n");
+        due.is("27 the row", y.gap(2, 1), 43);
     }
 
     private static void gapOfOverfull() {
@@ -859,7 +879,7 @@ public final class PromiseTest {
     }
 
     private static void textFaults() {
-        Object[][] faults = {{"", 0}, {"   ", 3}, {"s", 0}, {"roo", 0}, {"rooms", 0}, {"Room s", 0}, {"room", 4}, {"room  ", 6},
+        Object[][] faults = {{"", 0}, {"   ", 3}, {"s", 0}, {"roo", 0}, {"rooms", 0}, {"roomz", 0}, {"aroom s", 0}, {"boom s", 0}, {"room sz", 5}, {"room 0a", 6}, {"room 9z", 6}, {"room `", 5}, {"room {", 5}, {"room :", 5}, {"Room s", 0}, {"room", 4}, {"room  ", 6},
             {" room", 5}, {"room room", 5}, {"room3", 4}, {"room 3a", 6}, {"room s3", 6}, {"room 3 4", 7}, {"room s s", 7},
             {"room ss", 5}, {"room l", 5}, {"miss a", 5}, {"throw s", 6}, {"throw l", 6}, {"room t", 5}, {"room 12345", 5},
             {"room 00001", 5}, {"room s+", 7}, {"room s+ ", 8}, {"room +s", 5}, {"room s++s", 7}, {"room -1", 5}, {"room s<s<s", 8},
@@ -1012,9 +1032,11 @@ public final class PromiseTest {
         due.is("33 stays", x.mark(0, 23, 5), 1);
         x.lay(0, 2, 0);
         due.is("33 stays", x.item(0, 23), 5);
+        x.mark(0, 0, 6);
         due.is("33 anew", x.sheet(0, 1, 24), 24);
         x.lay(0, 2, 0);
         due.is("33 all 0", x.item(0, 23), 0);
+        due.is("33 all 0", x.item(0, 0), 0);
         due.is("33 missing, n any", x.sheet(0, -1, 25), 0);
         due.is("33 missing, n any", x.sheet(1, -1, -7), 0);
         due.is("33 missing", x.pour(0), NOTHING);
@@ -1363,12 +1385,16 @@ public final class PromiseTest {
         for (int again = 0; again < 2; again++) {
             x.leaf(5, 1, 1, 0);
             x.turns(0, 5);
+            x.set(2, 0, 9);
+            x.set(2, 1, 9);
             x.set(0, 2, 3);
             x.set(1, 0, 9);
             x.leans(1, NONE);
             x.want(2);
             x.want(3);
             x.out(0);
+            x.clear();
+            x.plan(0);
             x.plan(0);
             x.rule(2);
             x.care(0);
@@ -1385,7 +1411,12 @@ public final class PromiseTest {
                 int stays = i == 11 ? 1 + again : i == 12 ? 12 : counts[i];
                 due.is("45 count(" + i + ")", x.count(i), stays);
             }
+            // Of 1 and 2 in the row 1 is found, 2 throws both by CARE: it misses 50.
+            due.is("45 the row", x.would(), 50);
             due.is("45 KIND", x.told(0, 0), 0);
+            due.is("45 SIZE", x.told(2, 1), 5);
+            due.is("45 LOSS", x.told(2, 2), 50);
+            due.is("45 MISS", x.told(2, 6), 50);
             due.is("45 WEIGHT", x.told(0, 3), 7);
             due.is("45 LEANS", x.told(1, 4), 0);
             due.is("45 ROOM by the text", x.told(1, 5), 5);
@@ -1397,9 +1428,6 @@ public final class PromiseTest {
             due.is("45 texts that count", x.why(2), NONE);
             due.is("45 no such text", x.textTold(1, 0), BAD);
             due.is("45 sheets stay", x.pour(0), 3);
-            x.clear();
-            x.plan(1);
-            x.plan(2);
             due.is("45 slots stay", x.rest(0, 5), 3);
             x.trim(0);
         }
