@@ -71,9 +71,6 @@ public final class KeptLeaves {
         if (!isKind(kind) || !isSize(size) || !isLoss(loss) || !mayLean(live.leaves.number, leans)) {
             return BAD;
         }
-        if (live.leaves.number >= MOST_LEAVES) {
-            return FULL;
-        }
         int made = live.addLeaf(kind, size, loss, leanInside(leans));
         live.weighAll();
         return made;
@@ -113,10 +110,7 @@ public final class KeptLeaves {
         if (!isLeaf(leaf) || !isKind(kind)) {
             return BAD;
         }
-        int was = live.leaves.kind[leaf];
-        live.leaves.kind[leaf] = kind;
-        live.weighAll();
-        return was;
+        return replace(live.leaves.kind, leaf, kind);
     }
 
     public int set(int leaf, int what, int v) {
