@@ -8,7 +8,9 @@ import java.nio.charset.StandardCharsets;
 import java.nio.file.Files;
 import java.nio.file.Path;
 import java.util.Arrays;
+import java.util.Map;
 import java.util.Set;
+import java.util.TreeMap;
 import java.util.TreeSet;
 import java.util.regex.Matcher;
 import java.util.regex.Pattern;
@@ -23,6 +25,8 @@ public final class RulesTest {
         String source = withoutComments(Files.readString(SOURCE, StandardCharsets.US_ASCII));
         words(source);
         methods(source);
+        library(source);
+        depth(source);
         face();
         others();
         callsMakeNothing();
@@ -66,6 +70,64 @@ public final class RulesTest {
             String body = source.substring(declared.end(), source.indexOf("\n" + indent + "}", declared.end()));
             due.holds(name + " is short", body.split("\n").length <= 60);
         }
+    }
+
+    /** The bodies of all methods by their names; those of one name are taken together. */
+    private static Map<String, String> bodies(String source) {
+        Map<String, String> bodies = new TreeMap<>();
+        Matcher declared = Pattern.compile("(?m)^( +)(?:(?:public|private|static|final) )*[\\w\\[\\]]+ (\\w+)\\([^)]*\\) \\{").matcher(source);
+        while (declared.find()) {
+            int end = source.indexOf("\n" + declared.group(1) + "}", declared.end());
+            bodies.merge(declared.group(2), source.substring(declared.end(), end), String::concat);
+        }
+        return bodies;
+    }
+
+    /** Rule 4: what is called is the class's own, or one of the few that the rules name. */
+    private static void library(String source) {
+        Set<String> own = bodies(source).keySet();
+        Set<String> named = Set.of("System.arraycopy", "Math.min", "Math.max", "Integer.bitCount");
+        Set<String> ofStrings = Set.of("length", "charAt", "indexOf");
+        Matcher call = Pattern.compile("\\b(?:(\\w+)\\.)?(\\w+)\\(").matcher(source);
+        Set<String> words = Set.of("if", "for", "while", "switch", "return");
+        while (call.find()) {
+            String name = call.group(2);
+            boolean made = Character.isUpperCase(name.charAt(0));
+            boolean fine = made || words.contains(name) || own.contains(name) || ofStrings.contains(name)
+                || named.contains(call.group(1) + "." + name);
+            due.holds(call.group() + " is own or named by the rules", fine);
+        }
+    }
+
+    /** Rule 11: calls that are no recursion go at most eight deep. */
+    private static void depth(String source) {
+        Map<String, String> bodies = bodies(source);
+        Map<String, Set<String>> calls = new TreeMap<>();
+        for (Map.Entry<String, String> one : bodies.entrySet()) {
+            Set<String> called = new TreeSet<>();
+            Matcher call = Pattern.compile("\\b(\\w+)\\(").matcher(one.getValue());
+            while (call.find()) {
+                if (bodies.containsKey(call.group(1))) {
+                    called.add(call.group(1));
+                }
+            }
+            calls.put(one.getKey(), called);
+        }
+        for (String name : bodies.keySet()) {
+            due.holds(name + " goes eight deep at most", deepest(calls, name, new TreeSet<>()) <= 8);
+        }
+    }
+
+    private static int deepest(Map<String, Set<String>> calls, String name, Set<String> open) {
+        if (!open.add(name)) {
+            return 0;
+        }
+        int most = 0;
+        for (String called : calls.get(name)) {
+            most = Math.max(most, deepest(calls, called, open));
+        }
+        open.remove(name);
+        return 1 + most;
     }
 
     private static void face() throws Exception {
