@@ -361,7 +361,10 @@ final class TextSentences extends Group {
             is("not by one of another KEY", x.told(0, 5), 6);
             text(x, "room 8+");
             is("not by a FAULT", x.told(0, 5), 6);
-            for (int i = 3; i < 14; i++) {
+            text(x, "miss !l");
+            text(x, "miss l");
+            is("a shorter one: nothing is left of the longer one", x.told(0, 6), 30);
+            for (int i = 5; i < 14; i++) {
                 text(x, "throw 1");
             }
             text(x, "room 9");
