@@ -1081,9 +1081,12 @@ public final class KeptLeaves {
                     missed[set] = BEYOND_ALL_MISSES;
                 }
             }
-            for (int bit = 1; bit < many; bit *= 2) {
-                for (int set = bit; set < many; set = set + 1 | bit) {
-                    missed[set] = Math.min(missed[set], missed[set - bit]);
+            for (int leaf = 0; leaf < world.leaves.number; leaf++) {
+                int bit = 1 << leaf;
+                for (int set = bit; set < many; set++) {
+                    if ((set & bit) != 0) {
+                        missed[set] = Math.min(missed[set], missed[set - bit]);
+                    }
                 }
             }
         }
